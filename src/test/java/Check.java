@@ -63,6 +63,12 @@ final class Check {
         return house.post(person, thread);
     }
 
+    /** Whether a statement of the class threw it, not the machine or the library in its place. */
+    static boolean isOwnThrow(RuntimeException thrown) {
+        StackTraceElement[] trace = thrown.getStackTrace();
+        return trace.length > 0 && trace[0].getClassName().startsWith("BoilerLog");
+    }
+
     // A call that throws must throw just the due class, and leave all that can be seen as it was.
     private static void throwsExactly(Class<?> due, String what, BoilerLog house, Call call) {
         String before = View.of(house);
@@ -71,6 +77,7 @@ final class Check {
             call.run();
         } catch (RuntimeException thrown) {
             got = thrown.getClass();
+            same(what + ": thrown by the class itself", true, isOwnThrow(thrown));
         }
         if (got != due) {
             fail(what + " threw " + got + ", due is " + due);

@@ -48,6 +48,7 @@ public final class FaceTest {
     public static void main(String[] args) throws IllegalAccessException {
         testConstants();
         testMembers();
+        testClassesInside();
         testNewObject();
         testObjectsAreApart();
         Check.end();
@@ -96,6 +97,24 @@ public final class FaceTest {
         Constructor<?>[] constructors = BoilerLog.class.getDeclaredConstructors();
         Check.same("constructors", 1, constructors.length);
         Check.same("the constructor's parameters", 0, constructors[0].getParameterCount());
+    }
+
+    // Only what LANGUAGE.md allows: static classes that are not public, and no static state.
+    private static void testClassesInside() {
+        for (Class<?> inside : BoilerLog.class.getDeclaredClasses()) {
+            Check.same(inside + " is static", true, Modifier.isStatic(inside.getModifiers()));
+            Check.same(inside + " is public", false, Modifier.isPublic(inside.getModifiers()));
+            checkStaticFields(inside);
+        }
+        checkStaticFields(BoilerLog.class);
+    }
+
+    private static void checkStaticFields(Class<?> checked) {
+        for (Field field : checked.getDeclaredFields()) {
+            if (Modifier.isStatic(field.getModifiers())) {
+                Check.same(field + " is final", true, Modifier.isFinal(field.getModifiers()));
+            }
+        }
     }
 
     private static String describe(Method method) {
